@@ -1,0 +1,81 @@
+/** Promise 10: fits. */
+public final class FitsTest {
+    public static void main(String[] args) {
+        emptyRecordFits();
+        overlappingCallsMayStandInEitherOrder();
+        endedBeforeBegunKeepsItsOrder();
+        openCallMayExplainAnAnswer();
+        everyAnswerIsHeldAgainstTheStore();
+        valueIsTakenOnce();
+        Check.end();
+    }
+
+    private static void emptyRecordFits() {
+        Check.due("line", new HandOffRecorder(0, 1).fits(), true);
+        Check.due("pile", new HandOffRecorder(1, 1).fits(), true);
+        Check.due("shared row", new HandOffRecorder(2, 1).fits(), true);
+    }
+
+    private static void overlappingCallsMayStandInEitherOrder() {
+        for (int first = 1; first <= 2; first++) {
+            HandOffRecorder x = new HandOffRecorder(0, 2);
+            Check.step(x.beginPut(0, 1));
+            Check.step(x.beginPut(1, 2));
+            Check.step(x.endPut(0, true));
+            Check.step(x.endPut(1, true));
+            Check.take(x, 2, first);
+            Check.due("line, " + first + " taken first", x.fits(), true);
+            Check.take(x, 2, 3 - first);
+            Check.due("line, both taken", x.fits(), true);
+        }
+    }
+
+    private static void endedBeforeBegunKeepsItsOrder() {
+        HandOffRecorder x = new HandOffRecorder(0, 2);
+        Check.put(x, 0, 1, true);
+        Check.put(x, 1, 2, true);
+        Check.take(x, 2, 2);
+        Check.due("line, the later one taken first", x.fits(), false);
+        x.renew(0, 2);
+        Check.take(x, 2, 1);
+        Check.put(x, 0, 1, true);
+        Check.due("taken before it was put", x.fits(), false);
+    }
+
+    private static void openCallMayExplainAnAnswer() {
+        HandOffRecorder x = new HandOffRecorder(1, 1);
+        Check.step(x.beginPut(0, 9));
+        Check.put(x, 1, 4, false);
+        Check.due("filled by the open put", x.fits(), true);
+        Check.step(x.beginTake(2));
+        Check.put(x, 1, 5, true);
+        Check.due("emptied by the open take", x.fits(), true);
+        Check.put(x, 1, 6, true);
+        Check.due("emptied twice by one take", x.fits(), false);
+    }
+
+    private static void everyAnswerIsHeldAgainstTheStore() {
+        HandOffRecorder x = new HandOffRecorder(0, 1);
+        Check.put(x, 0, 1, false);
+        Check.due("refused by an empty store", x.fits(), false);
+        x.renew(0, 1);
+        Check.put(x, 0, 1, true);
+        Check.put(x, 0, 2, true);
+        Check.due("two in a store of one", x.fits(), false);
+        x.renew(0, 1);
+        Check.put(x, 0, 1, true);
+        Check.take(x, 0, -1);
+        Check.due("empty while it holds a value", x.fits(), false);
+    }
+
+    private static void valueIsTakenOnce() {
+        HandOffRecorder x = new HandOffRecorder(2, 2);
+        Check.put(x, 0, 7, true);
+        Check.step(x.beginTake(0));
+        Check.step(x.beginTake(1));
+        Check.step(x.endTake(0, 7));
+        Check.due("taken once", x.fits(), true);
+        Check.step(x.endTake(1, 7));
+        Check.due("taken twice", x.fits(), false);
+    }
+}
