@@ -23,6 +23,7 @@ public final class HandOffRecorder {
     private final int[] repliesOnPath = new int[MOST_CALLS];
     private final Findings findings = new Findings();
     private int begunCalls;
+    // Sets of calls are bits, so that the search can hand them on without copying rows.
     private int endedCalls;
     private int givenUpCalls;
     private int eventCount;
@@ -45,6 +46,7 @@ public final class HandOffRecorder {
         }
         calls[begunCalls].startPut(worker, value, endedCalls);
         openNextCall(worker);
+        review();
         return true;
     }
 
@@ -54,6 +56,7 @@ public final class HandOffRecorder {
         }
         calls[begunCalls].startTake(worker, endedCalls);
         openNextCall(worker);
+        review();
         return true;
     }
 
@@ -62,6 +65,7 @@ public final class HandOffRecorder {
             return false;
         }
         endOpenCall(worker, stored ? STORED : NOT_STORED);
+        review();
         return true;
     }
 
@@ -73,6 +77,7 @@ public final class HandOffRecorder {
             return false;
         }
         endOpenCall(worker, value);
+        review();
         return true;
     }
 
@@ -81,8 +86,8 @@ public final class HandOffRecorder {
             return false;
         }
         givenUpCalls |= 1 << openCalls[worker];
-        openCalls[worker] = NONE;
-        closeEvent();
+        closeOpenCall(worker);
+        review();
         return true;
     }
 
@@ -158,37 +163,36 @@ public final class HandOffRecorder {
         givenUpCalls = 0;
         eventCount = 0;
         firstBroken = 0;
-        searchExplanations();
+        review();
     }
 
     private void openNextCall(int worker) {
         openCalls[worker] = begunCalls;
         begunCalls++;
-        closeEvent();
+        eventCount++;
     }
 
     private void endOpenCall(int worker, int answer) {
         int call = openCalls[worker];
         calls[call].answer = answer;
         endedCalls |= 1 << call;
-        openCalls[worker] = NONE;
-        closeEvent();
+        closeOpenCall(worker);
     }
 
-    private void closeEvent() {
+    private void closeOpenCall(int worker) {
+        openCalls[worker] = NONE;
         eventCount++;
-        searchExplanations();
+    }
+
+    private void review() {
+        findings.clear();
+        lengthenList(0, Row.EMPTY, 0);
         if (firstBroken == 0 && !fits()) {
             firstBroken = eventCount;
         }
     }
 
-    private void searchExplanations() {
-        findings.clear();
-        lengthenList(0, Row.EMPTY, 0);
-    }
-
-    /** Takes up the list of the calls in listed, which led to row, and every explanation that begins with it. */
+    /** Notes every explanation that begins with the calls in listed, which have left row in the store. */
     private void lengthenList(int listed, long row, int depth) {
         if ((endedCalls & ~listed) == 0) {
             noteExplanation(listed, row);
@@ -364,11 +368,12 @@ public final class HandOffRecorder {
         private static final int ROOM = 680;
         private static final int SLOTS = 1024;
         private static final int FREE = 0;
+        // The product of a row and this number is well mixed in its ten highest bits, which name one of the slots.
         private static final long SCATTER = 0x9E3779B97F4A7C15L;
         private static final int SCATTER_SHIFT = 54;
 
         private final long[] rows = new long[ROOM];
-        // A slot holds the place in rows plus one: looking through rows for every explanation would be slow.
+        // A slot is free or holds the place in rows plus one: looking through all rows each time would be slow.
         private final int[] slots = new int[SLOTS];
         private int count;
 
@@ -380,11 +385,14 @@ public final class HandOffRecorder {
         void add(long row) {
             int slot = (int) (row * SCATTER >>> SCATTER_SHIFT);
             for (int tried = 0; tried < SLOTS; tried++) {
-                if (slots[slot] == FREE) {
-                    append(row, slot);
+                int taken = slots[slot];
+                if (taken != FREE && rows[taken - 1] == row) {
                     return;
                 }
-                if (rows[slots[slot] - 1] == row) {
+                if (taken == FREE && count < ROOM) {
+                    rows[count] = row;
+                    count++;
+                    slots[slot] = count;
                     return;
                 }
                 slot = (slot + 1) % SLOTS;
@@ -415,14 +423,6 @@ public final class HandOffRecorder {
                 }
             }
             return false;
-        }
-
-        private void append(long row, int slot) {
-            if (count < ROOM) {
-                rows[count] = row;
-                count++;
-                slots[slot] = count;
-            }
         }
     }
 }
