@@ -7,6 +7,8 @@ public final class AgainstTheTermsTest {
     private static final int SHORT_EVENTS = 10;
     private static final int LONG_RUNS = 60;
     private static final int LONG_EVENTS = 24;
+    // With so few places a long run stays within the 512 calls for which something is promised.
+    private static final int PLACES = 5;
 
     private final Random draw;
     private final HandOffRecorder program;
@@ -132,11 +134,12 @@ public final class AgainstTheTermsTest {
         Check.due(told + ", outcomes()", program.outcomes(), plain.outcomes());
         Check.due(told + ", fewest()", program.fewest(), plain.fewest());
         Check.due(told + ", most()", program.most(), plain.most());
-        for (int worker = -1; worker <= 3; worker++) {
+        for (int worker = 0; worker < 3; worker++) {
             Check.due(told + ", certain(" + worker + ")", program.certain(worker), plain.certain(worker));
             Check.due(told + ", answers(" + worker + ")", program.answers(worker), plain.answers(worker));
         }
-        for (int place = -1; place <= 8; place++) {
+        for (int i = 0; i < PLACES; i++) {
+            int place = draw.nextInt(6) == 0 ? draw.nextInt(10) - 1 : draw.nextInt(4);
             int value = draw.nextInt(3) * 7;
             Check.due(told + ", mayHold(" + place + ", " + value + ")",
                 program.mayHold(place, value), plain.mayHold(place, value));

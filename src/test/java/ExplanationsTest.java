@@ -1,18 +1,22 @@
 /** Promise 12: explanations. */
 public final class ExplanationsTest {
     public static void main(String[] args) {
+        emptyListExplainsTheEmptyRecord();
         openCallsMayBeLeftOut();
         likeCallsAreDifferent();
-        refusedPutStandsInTheList();
+        callsWithoutEffectStandInTheList();
         orderInTimeIsKept();
         isZeroWhenItDoesNotFit();
         countsTheMostThatThereCanBe();
         Check.end();
     }
 
+    private static void emptyListExplainsTheEmptyRecord() {
+        Check.due("none begun", new HandOffRecorder(0, 8).explanations(), 1);
+    }
+
     private static void openCallsMayBeLeftOut() {
         HandOffRecorder x = new HandOffRecorder(0, 8);
-        Check.due("none begun", x.explanations(), 1);
         Check.step(x.beginPut(0, 1));
         Check.due("one open", x.explanations(), 2);
         Check.step(x.beginTake(1));
@@ -40,12 +44,16 @@ public final class ExplanationsTest {
         Check.due("like takes", x.explanations(), 6);
     }
 
-    private static void refusedPutStandsInTheList() {
+    private static void callsWithoutEffectStandInTheList() {
         HandOffRecorder x = new HandOffRecorder(1, 1);
         Check.put(x, 0, 1, true);
         Check.step(x.beginPut(0, 2));
         Check.step(x.beginPut(1, 3));
-        Check.due("two refused puts", x.explanations(), 5);
+        Check.due("two puts without room", x.explanations(), 5);
+        x.renew(1, 1);
+        Check.step(x.beginTake(0));
+        Check.step(x.beginTake(1));
+        Check.due("two takes of nothing", x.explanations(), 5);
     }
 
     private static void orderInTimeIsKept() {
@@ -64,6 +72,8 @@ public final class ExplanationsTest {
         Check.due("broken", x.explanations(), 0);
         Check.step(x.beginPut(1, 1));
         Check.due("still broken", x.explanations(), 0);
+        x.renew(0, 8);
+        Check.due("after renew", x.explanations(), 1);
     }
 
     /** The order of events that leaves the most explanations: it fills all that the object keeps. */

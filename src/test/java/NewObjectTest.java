@@ -1,78 +1,75 @@
 /** Promise 1: a new object. */
 public final class NewObjectTest {
     public static void main(String[] args) {
-        recordIsEmpty();
-        kindsTakeFromTheirEnd();
-        otherKindsAreLines();
-        capacityIsKeptWithinOneAndEight();
+        recordAndStoreAreEmpty();
+        kindsZeroOneAndTwoAreKept();
+        otherKindsCountAsZero();
+        capacitiesOneToEightAreKept();
+        capacityBelowOneCountsAsOne();
+        capacityAboveEightCountsAsEight();
+        objectsShareNothing();
         Check.end();
     }
 
-    private static void recordIsEmpty() {
-        HandOffRecorder x = new HandOffRecorder(1, 4);
-        Check.due("events()", x.events(), 0);
-        Check.due("begun()", x.begun(), 0);
-        Check.due("fits()", x.fits(), true);
-        Check.due("brokenAt()", x.brokenAt(), 0);
-        Check.due("explanations()", x.explanations(), 1);
-        Check.due("outcomes()", x.outcomes(), 1);
-        Check.due("fewest()", x.fewest(), 0);
-        Check.due("most()", x.most(), 0);
-        Check.due("mayHold(0, 0)", x.mayHold(0, 0), false);
-        Check.due("certain(0)", x.certain(0), false);
-        Check.due("answers(0)", x.answers(0), 0);
+    private static void recordAndStoreAreEmpty() {
+        for (int kind = -1; kind <= 3; kind++) {
+            for (int capacity = 0; capacity <= 9; capacity++) {
+                Check.empty("new(" + kind + ", " + capacity + ")", new HandOffRecorder(kind, capacity));
+            }
+        }
     }
 
-    private static void kindsTakeFromTheirEnd() {
-        Check.due("line, worker 0", firstTaken(0, 0), 1);
-        Check.due("line, worker 2", firstTaken(0, 2), 1);
-        Check.due("pile, worker 0", firstTaken(1, 0), 3);
-        Check.due("pile, worker 1", firstTaken(1, 1), 3);
-        Check.due("shared row, owner", firstTaken(2, 0), 3);
-        Check.due("shared row, worker 1", firstTaken(2, 1), 1);
-        Check.due("shared row, worker 2", firstTaken(2, 2), 1);
+    private static void kindsZeroOneAndTwoAreKept() {
+        for (int capacity = 2; capacity <= 8; capacity += 6) {
+            int room = capacity;
+            Check.due("kind 0", Probe.kind(() -> new HandOffRecorder(0, room)), Probe.LINE);
+            Check.due("kind 1", Probe.kind(() -> new HandOffRecorder(1, room)), Probe.PILE);
+            Check.due("kind 2", Probe.kind(() -> new HandOffRecorder(2, room)), Probe.SHARED_ROW);
+        }
     }
 
-    private static void otherKindsAreLines() {
-        int[] kinds = {-1, 3, 5, Integer.MIN_VALUE, Integer.MAX_VALUE};
+    private static void otherKindsCountAsZero() {
+        int[] kinds = {Integer.MIN_VALUE, -2, -1, 3, 4, Integer.MAX_VALUE};
         for (int kind : kinds) {
-            Check.due("kind " + kind, firstTaken(kind, 0), 1);
-            Check.due("worker 1 puts, kind " + kind, new HandOffRecorder(kind, 2).beginPut(1, 0), true);
+            Check.due("kind " + kind, Probe.kind(() -> new HandOffRecorder(kind, 2)), Probe.LINE);
         }
     }
 
-    private static void capacityIsKeptWithinOneAndEight() {
-        int[] given = {Integer.MIN_VALUE, -1, 0, 1, 2, 7, 8, 9, Integer.MAX_VALUE};
-        int[] due = {1, 1, 1, 1, 2, 7, 8, 8, 8};
-        for (int i = 0; i < given.length; i++) {
-            Check.due("room for capacity " + given[i], room(given[i]), due[i]);
+    private static void capacitiesOneToEightAreKept() {
+        for (int kind = 0; kind <= 2; kind++) {
+            for (int capacity = 1; capacity <= 8; capacity++) {
+                Check.due("room for capacity " + capacity, Probe.room(new HandOffRecorder(kind, capacity)), capacity);
+            }
         }
     }
 
-    /** The value that worker gets, of 1, 2, 3 put one after the other; -2 when none explains the record. */
-    private static int firstTaken(int kind, int worker) {
-        for (int value = -1; value < 16; value++) {
-            HandOffRecorder x = new HandOffRecorder(kind, 4);
-            for (int put = 1; put <= 3; put++) {
-                Check.put(x, 0, put, true);
-            }
-            Check.take(x, worker, value);
-            if (x.fits()) {
-                return value;
+    private static void capacityBelowOneCountsAsOne() {
+        int[] capacities = {Integer.MIN_VALUE, -8, -1, 0};
+        for (int kind = 0; kind <= 2; kind++) {
+            for (int capacity : capacities) {
+                Check.due("room for capacity " + capacity, Probe.room(new HandOffRecorder(kind, capacity)), 1);
             }
         }
-        return -2;
     }
 
-    private static int room(int capacity) {
-        HandOffRecorder x = new HandOffRecorder(0, capacity);
-        for (int put = 0; put < 8; put++) {
-            x.beginPut(0, put);
-            x.endPut(0, true);
-            if (!x.fits()) {
-                return put;
+    /** Eight calls can't show that a ninth value has no room, but that eight have. */
+    private static void capacityAboveEightCountsAsEight() {
+        int[] capacities = {9, 10, 16, Integer.MAX_VALUE};
+        for (int kind = 0; kind <= 2; kind++) {
+            for (int capacity : capacities) {
+                Check.due("room for capacity " + capacity, Probe.room(new HandOffRecorder(kind, capacity)), 8);
             }
         }
-        return 8;
+    }
+
+    private static void objectsShareNothing() {
+        HandOffRecorder used = new HandOffRecorder(1, 1);
+        HandOffRecorder other = new HandOffRecorder(0, 8);
+        Check.step(used.beginPut(1, 4));
+        Check.take(used, 0, 9);
+        Check.empty("an object made before the calls of another", other);
+        Check.empty("an object made after them", new HandOffRecorder(1, 1));
+        Check.due("room of the other", Probe.room(other), 8);
+        Check.broken("the used one", used, 3);
     }
 }
