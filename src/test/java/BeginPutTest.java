@@ -54,7 +54,7 @@ public final class BeginPutTest {
                 int by = worker;
                 Check.refused("beginPut(" + by + ", " + value + ")", BeginPutTest::unused, x -> x.beginPut(by, value));
             }
-            Check.refused("beginPut(0, " + value + ") of the owner", BeginPutTest::sharedRow, x -> x.beginPut(0, value));
+            Check.refused("owner, value " + value, BeginPutTest::sharedRow, x -> x.beginPut(0, value));
         }
     }
 

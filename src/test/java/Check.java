@@ -80,7 +80,7 @@ final class Check {
         due("beginning calls after " + call, beginAll(heard), beginAll(spared));
     }
 
-    /** Like refused, for a call that begins or ends nothing wrong. */
+    /** The call is accepted and is one event, whether or not the record fits then. */
     static void accepted(String call, Supplier<HandOffRecorder> before, Predicate<HandOffRecorder> asked) {
         HandOffRecorder x = before.get();
         int events = x.events();

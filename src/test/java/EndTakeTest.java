@@ -20,7 +20,8 @@ public final class EndTakeTest {
             for (int value = -1; value <= 15; value++) {
                 int by = worker;
                 int got = value;
-                Check.accepted("endTake(" + by + ", " + got + ")", EndTakeTest::withThreeOpenTakes, x -> x.endTake(by, got));
+                Check.accepted("endTake(" + by + ", " + got + ")", EndTakeTest::withThreeOpenTakes,
+                    x -> x.endTake(by, got));
             }
         }
     }

@@ -59,7 +59,7 @@ public final class OutcomesTest {
         Check.due("and with one taken", x.outcomes(), 4);
     }
 
-    /** Two overlapping puts after up to six others: rows that differ at two places alone, the last ones of eight too. */
+    /** Two overlapping puts after up to six others: rows that differ at two places alone, up to the last two. */
     private static void valueAtEveryPlaceTellsRowsApart() {
         for (int before = 0; before <= 6; before++) {
             HandOffRecorder x = new HandOffRecorder(0, 8);
